@@ -19,6 +19,7 @@ public final class ValleyMass {
     private static final int ROWS_MOST = PIECES_MOST * PARTS;
     private static final int NOTES_MOST = 12;
     private static final int NEED_MOST = 4;
+    private static final int NUMBER_TOP = 9999;
     private static final int NOTE_TOP = 48;
     private static final int OCTAVE = 12;
     private static final int SKILL_TOP = 9;
@@ -89,7 +90,7 @@ public final class ValleyMass {
         int fault = reader.read(n, draft);
         fed = 0;
         if (fault != 0) {
-            faultPlace = reader.place;
+            faultPlace = reader.place();
             refused[REFUSED_TEXT]++;
             return fault;
         }
@@ -1449,84 +1450,77 @@ public final class ValleyMass {
         }
     }
 
-    /** Reads a TEXT, token by token, up to its first FAULT. */
-    private static final class Reader {
+    /** The tokens of a TEXT. */
+    private static final class Tokens {
         /** Each word's number is its place here: the words of one kind stand side by side. */
         private static final String WORDS = "north south neutral soprano alto tenor bass piece every truce aim or and not day sung own other fallen can skill part singer tone ";
-        private static final int WORD_NORTH = 0;
-        private static final int WORD_SOUTH = 1;
-        private static final int WORD_NEUTRAL = 2;
-        private static final int WORD_SOPRANO = 3;
-        private static final int WORD_BASS = 6;
-        private static final int WORD_PIECE = 7;
-        private static final int WORD_EVERY = 8;
-        private static final int WORD_TRUCE = 9;
-        private static final int WORD_AIM = 10;
-        private static final int WORD_OR = 11;
-        private static final int WORD_AND = 12;
-        private static final int WORD_NOT = 13;
-        private static final int WORD_DAY = 14;
-        private static final int WORD_SKILL = 20;
-        private static final int WORD_UNKNOWN = 24;
-        private static final int NUMBER = 30;
-        private static final int LONG_NUMBER = 31;
-        private static final int NO_TOKEN = 32;
-        private static final int END = 33;
-        /** A sign's token is this and its byte. */
-        private static final int SIGN = 1000;
-
-        private static final int CANT_STAND = 1;
-        private static final int TOO_MUCH = 2;
-        private static final int NO_VALUE = 3;
-        private static final int ROW_AGAIN = 4;
-        private static final int TOLD_AGAIN = 5;
+        static final int NORTH = 0;
+        static final int SOUTH = 1;
+        static final int NEUTRALS = 2;
+        static final int SOPRANO = 3;
+        static final int BASS = 6;
+        static final int PIECE = 7;
+        static final int EVERY = 8;
+        static final int TRUCE = 9;
+        static final int AIM = 10;
+        static final int OR = 11;
+        static final int AND = 12;
+        static final int NOT = 13;
+        static final int DAY = 14;
+        static final int SKILL = 20;
+        static final int UNKNOWN_WORD = 24;
+        static final int LONG_NUMBER = 31;
+        static final int NO_TOKEN = 32;
+        static final int END = 33;
+        /** A sign's kind is this and its byte. */
+        static final int SIGN = 1000;
+        /** A NUMBER's kind is this and what it is. */
+        static final int NUMBER = 10000;
 
         private static final int DIGITS_MOST = 4;
-        private static final int DEPTH_MOST = 6;
-        private static final int NOTS_MOST = 6;
-        private static final int TRUCE_VALUES = 6;
-        private static final int AIM_VALUES = 4;
 
         private final int[] text;
+        private final int[] kinds = new int[TAPE_MOST];
+        private final int[] places = new int[TAPE_MOST];
+        private int many;
         private int end;
-        private int next;
-        private int token;
-        private int number;
-        private int taken;
-        private boolean everyTold;
-        private int firstValue;
-        private int valueCount;
-        private int fault;
-        /** Where the token stands; once there is a FAULT, its place. */
-        int place;
 
-        Reader(int[] tape) {
+        Tokens(int[] tape) {
             text = tape;
         }
 
-        /** 0, or the FAULT. */
-        int read(int many, Valley into) {
-            end = Math.min(many, text.length);
-            next = 0;
-            everyTold = false;
-            fault = 0;
-            into.clear();
-            step();
-            for (int i = 0; i < TAPE_MOST && token != END; i++) {
-                if (!readLine(into)) {
-                    return fault;
+        int kindOf(int i) {
+            return i >= 0 && i < many && i < TAPE_MOST ? kinds[i] : END;
+        }
+
+        /** Where a token begins; the text's length behind the last one. */
+        int placeOf(int i) {
+            return i >= 0 && i < many && i < TAPE_MOST ? places[i] : end;
+        }
+
+        void take(int length) {
+            many = 0;
+            end = Math.min(length, text.length);
+            int at = 0;
+            while (at < end) {
+                int sign = byteAt(at);
+                if (sign == ' ' || sign == 10) {
+                    at++;
+                } else {
+                    int next = Math.max(at + 1, endOfToken(at));
+                    keep(kindBetween(at, next), at);
+                    at = next;
                 }
             }
-            into.settle();
-            return 0;
         }
 
-        private boolean fail(int kind) {
-            fault = kind;
-            return false;
+        private void keep(int kind, int place) {
+            if (many >= 0 && many < TAPE_MOST) {
+                kinds[many] = kind;
+                places[many] = place;
+                many++;
+            }
         }
-
-        // ---- tokens
 
         private int byteAt(int i) {
             return i >= 0 && i < end && i < text.length ? text[i] : NONE;
@@ -1540,107 +1534,165 @@ public final class ValleyMass {
             return sign >= '0' && sign <= '9';
         }
 
-        /** Goes on to the next token. */
-        private void step() {
-            int i = next;
-            while (i < end && (byteAt(i) == ' ' || byteAt(i) == 10)) {
-                i++;
-            }
-            place = i;
-            int first = byteAt(i);
-            if (i >= end) {
-                token = END;
-            } else if (isLetter(first)) {
-                stepWord();
-            } else if (isDigit(first)) {
-                stepNumber();
-            } else {
-                next = i + 1;
-                token = isSign(first) ? SIGN + first : NO_TOKEN;
-            }
-        }
-
-        private static boolean isSign(int sign) {
-            return sign == ';' || sign == '<' || sign == '='
-                || sign >= '(' && sign <= '+' || sign == '-' || sign == '/';
-        }
-
-        private void stepNumber() {
-            int i = place;
-            number = 0;
-            while (i < end && isDigit(byteAt(i))) {
-                if (i < place + DIGITS_MOST) {
-                    number = number * 10 + byteAt(i) - '0';
+        private int endOfToken(int from) {
+            int at = from;
+            if (isLetter(byteAt(from))) {
+                while (at < end && isLetter(byteAt(at))) {
+                    at++;
                 }
-                i++;
+            } else {
+                while (at < end && isDigit(byteAt(at))) {
+                    at++;
+                }
             }
-            next = i;
-            token = i > place + DIGITS_MOST ? LONG_NUMBER : NUMBER;
+            return at;
         }
 
-        private void stepWord() {
-            int i = place;
-            while (i < end && isLetter(byteAt(i))) {
-                i++;
+        private int kindBetween(int from, int to) {
+            int first = byteAt(from);
+            if (isLetter(first)) {
+                return wordBetween(from, to);
             }
-            next = i;
-            token = wordNumber();
+            if (isDigit(first)) {
+                return numberBetween(from, to);
+            }
+            switch (first) {
+                case ';':
+                case '(':
+                case ')':
+                case '+':
+                case '-':
+                case '*':
+                case '/':
+                case '<':
+                case '=': return SIGN + first;
+                default: return NO_TOKEN;
+            }
         }
 
-        private int wordNumber() {
+        private int numberBetween(int from, int to) {
+            if (to - from > DIGITS_MOST) {
+                return LONG_NUMBER;
+            }
+            int number = 0;
+            for (int i = from; i < to; i++) {
+                number = number * 10 + byteAt(i) - '0';
+            }
+            return NUMBER + number;
+        }
+
+        private int wordBetween(int from, int to) {
             int word = 0;
-            int from = 0;
+            int start = 0;
             for (int i = 0; i < WORDS.length(); i++) {
                 if (WORDS.charAt(i) == ' ') {
-                    if (i - from == next - place && sameLetters(from, i)) {
+                    if (i - start == to - from && sameLetters(start, i, from)) {
                         return word;
                     }
                     word++;
-                    from = i + 1;
+                    start = i + 1;
                 }
             }
-            return WORD_UNKNOWN;
+            return UNKNOWN_WORD;
         }
 
-        private boolean sameLetters(int from, int to) {
-            for (int i = from; i < to && i < WORDS.length(); i++) {
-                if (i < 0 || WORDS.charAt(i) != byteAt(place + i - from)) {
+        private boolean sameLetters(int start, int stop, int from) {
+            for (int i = start; i < stop && i < WORDS.length(); i++) {
+                if (i < 0 || WORDS.charAt(i) != byteAt(from + i - start)) {
                     return false;
                 }
             }
             return true;
         }
+    }
+
+    /** Reads a TEXT, token by token, up to its first FAULT. */
+    private static final class Reader {
+        private static final int CANT_STAND = 1;
+        private static final int TOO_MUCH = 2;
+        private static final int NO_VALUE = 3;
+        private static final int ROW_AGAIN = 4;
+        private static final int TOLD_AGAIN = 5;
+
+        private static final int DEPTH_MOST = 6;
+        private static final int NOTS_MOST = 6;
+        private static final int TRUCE_VALUES = 6;
+        private static final int AIM_VALUES = 4;
+
+        private final Tokens tokens;
+        private int at;
+        private int token;
+        private int taken;
+        private boolean everyTold;
+        private int firstValue;
+        private int valueCount;
+        private int fault;
+
+        Reader(int[] tape) {
+            tokens = new Tokens(tape);
+        }
+
+        /** 0, or the FAULT, before which the reader stays. */
+        int read(int length, Valley into) {
+            tokens.take(length);
+            at = 0;
+            token = tokens.kindOf(0);
+            everyTold = false;
+            fault = 0;
+            into.clear();
+            for (int i = 0; i < TAPE_MOST && token != Tokens.END; i++) {
+                if (!readLine(into)) {
+                    return fault;
+                }
+            }
+            into.settle();
+            return 0;
+        }
+
+        int place() {
+            return tokens.placeOf(at);
+        }
+
+        private boolean fail(int kind) {
+            fault = kind;
+            return false;
+        }
+
+        private void step() {
+            at++;
+            token = tokens.kindOf(at);
+        }
 
         private boolean atSign(char sign) {
-            return token == SIGN + sign;
+            return token == Tokens.SIGN + sign;
         }
 
         private boolean atNumber() {
-            return token == NUMBER || token == LONG_NUMBER;
+            return token >= Tokens.NUMBER || token == Tokens.LONG_NUMBER;
         }
 
         private boolean atWord() {
-            return token >= WORD_NORTH && token <= WORD_UNKNOWN;
+            return token >= Tokens.NORTH && token <= Tokens.UNKNOWN_WORD;
         }
 
         private boolean atPart() {
-            return token >= WORD_SOPRANO && token <= WORD_BASS;
+            return token >= Tokens.SOPRANO && token <= Tokens.BASS;
         }
 
         // ---- lines
 
         private boolean readLine(Valley into) {
-            if (token >= WORD_NORTH && token <= WORD_NEUTRAL) {
+            if (token >= Tokens.NORTH && token <= Tokens.NEUTRALS) {
                 return readSinger(into) && readSign(';');
             }
             if (atPart()) {
                 return readRow(into) && readSign(';');
             }
             switch (token) {
-                case WORD_PIECE: return readPiece(into) && readSign(';');
-                case WORD_EVERY: return readEvery(into) && readSign(';');
-                case WORD_TRUCE: return readRule(into.rules, 0) && readSign(';');
-                case WORD_AIM: return readRule(into.rules, Rules.AIM_FIRST) && readSign(';');
+                case Tokens.PIECE: return readPiece(into) && readSign(';');
+                case Tokens.EVERY: return readEvery(into) && readSign(';');
+                case Tokens.TRUCE: return readRule(into.rules, 0) && readSign(';');
+                case Tokens.AIM: return readRule(into.rules, Rules.AIM_FIRST) && readSign(';');
                 default: return fail(CANT_STAND);
             }
         }
@@ -1653,15 +1705,15 @@ public final class ValleyMass {
             return true;
         }
 
-        /** What it read is in taken when the reader has gone on. */
+        /** What it read is in taken; a LONG_NUMBER comes out below 0, so below the least. */
         private boolean readNumber(int least, int most) {
             if (!atNumber()) {
                 return fail(CANT_STAND);
             }
-            if (token == LONG_NUMBER || number < least || number > most) {
+            taken = token - Tokens.NUMBER;
+            if (taken < least || taken > most) {
                 return fail(TOO_MUCH);
             }
-            taken = number;
             step();
             return true;
         }
@@ -1671,12 +1723,12 @@ public final class ValleyMass {
             if (singer < 0 || singer >= SINGERS_MOST) {
                 return fail(TOO_MUCH);
             }
-            into.side[singer] = token - WORD_NORTH;
+            into.side[singer] = token - Tokens.NORTH;
             step();
             if (!atPart()) {
                 return fail(CANT_STAND);
             }
-            into.part[singer] = token - WORD_SOPRANO;
+            into.part[singer] = token - Tokens.SOPRANO;
             step();
             if (!readNumber(0, NOTE_TOP)) {
                 return false;
@@ -1704,7 +1756,7 @@ public final class ValleyMass {
         }
 
         private boolean readRow(Valley into) {
-            int row = (into.pieces - 1) * PARTS + token - WORD_SOPRANO;
+            int row = (into.pieces - 1) * PARTS + token - Tokens.SOPRANO;
             if (into.pieces < 1 || row < 0 || row >= ROWS_MOST) {
                 return fail(CANT_STAND);
             }
@@ -1744,15 +1796,15 @@ public final class ValleyMass {
         /** First is the north's rule of this kind; the south's comes behind it. */
         private boolean readRule(Rules rules, int first) {
             step();
-            if (token < WORD_NORTH || token > WORD_SOUTH) {
+            if (token < Tokens.NORTH || token > Tokens.SOUTH) {
                 return fail(CANT_STAND);
             }
-            int rule = first + token - WORD_NORTH;
+            int rule = first + token - Tokens.NORTH;
             if (rules.has(rule)) {
                 return fail(TOLD_AGAIN);
             }
             boolean truce = first < Rules.AIM_FIRST;
-            firstValue = truce ? WORD_DAY : WORD_SKILL;
+            firstValue = truce ? Tokens.DAY : Tokens.SKILL;
             valueCount = truce ? TRUCE_VALUES : AIM_VALUES;
             step();
             rules.open(rule);
@@ -1769,7 +1821,7 @@ public final class ValleyMass {
                 return fail(starts ? TOO_MUCH : CANT_STAND);
             }
             boolean fine = readAnd(rules, depth);
-            for (int i = 0; i < TAPE_MOST && fine && token == WORD_OR; i++) {
+            for (int i = 0; i < TAPE_MOST && fine && token == Tokens.OR; i++) {
                 step();
                 fine = readAnd(rules, depth);
                 rules.add(Rules.STEP_OR);
@@ -1779,7 +1831,7 @@ public final class ValleyMass {
 
         private boolean readAnd(Rules rules, int depth) {
             boolean fine = readNot(rules, depth);
-            for (int i = 0; i < TAPE_MOST && fine && token == WORD_AND; i++) {
+            for (int i = 0; i < TAPE_MOST && fine && token == Tokens.AND; i++) {
                 step();
                 fine = readNot(rules, depth);
                 rules.add(Rules.STEP_AND);
@@ -1789,11 +1841,11 @@ public final class ValleyMass {
 
         private boolean readNot(Rules rules, int depth) {
             int nots = 0;
-            while (nots < NOTS_MOST && token == WORD_NOT) {
+            while (nots < NOTS_MOST && token == Tokens.NOT) {
                 step();
                 nots++;
             }
-            if (token == WORD_NOT && nots == NOTS_MOST) {
+            if (token == Tokens.NOT && nots == NOTS_MOST) {
                 return fail(TOO_MUCH);
             }
             boolean fine = readTest(rules, depth);
@@ -1853,14 +1905,10 @@ public final class ValleyMass {
                 step();
                 return true;
             }
-            if (token == LONG_NUMBER) {
-                return fail(TOO_MUCH);
+            if (!readNumber(0, NUMBER_TOP)) {
+                return false;
             }
-            if (token != NUMBER) {
-                return fail(CANT_STAND);
-            }
-            rules.add(number);
-            step();
+            rules.add(taken);
             return true;
         }
     }
