@@ -44,16 +44,14 @@ public final class ValleyMass {
     private static final int REFUSED_HEARD = 2;
     private static final int REFUSALS = 3;
 
-    private final int[] tape = new int[TAPE_MOST];
     private final int[] refused = new int[REFUSALS];
     private final int[] ways = new int[SINGERS_MOST + 1];
-    private final Reader reader = new Reader(tape);
-    private final Chronicle record = new Chronicle();
+    private final Reader reader = new Reader();
+    private final Chronicle story = new Chronicle();
     private final Chronicle kept = new Chronicle();
     private final State trial = new State();
     private Valley told = new Valley();
     private Valley draft = new Valley();
-    private int fed;
     private int faultPlace = NONE;
     private boolean imageKept;
 
@@ -63,32 +61,24 @@ public final class ValleyMass {
     // ---- the tape and the text
 
     public int feed(int a, int b, int c, int d, int e) {
-        if (fed > TAPE_MOST - FEED_BYTES) {
+        Tape tape = reader.tape;
+        if (tape.fed > TAPE_MOST - FEED_BYTES) {
             return NONE;
         }
-        put(a);
-        put(b);
-        put(c);
-        put(d);
-        put(e);
-        return fed;
-    }
-
-    private void put(int number) {
-        for (int shift = 24; shift >= 0; shift -= 8) {
-            if (fed >= 0 && fed < TAPE_MOST) {
-                tape[fed] = number >>> shift & 255;
-                fed++;
-            }
-        }
+        tape.put(a);
+        tape.put(b);
+        tape.put(c);
+        tape.put(d);
+        tape.put(e);
+        return tape.fed;
     }
 
     public int valley(int n) throws IllegalArgumentException {
-        if (n < 0 || n > fed) {
+        if (n < 0 || n > reader.tape.fed) {
             throw new IllegalArgumentException("the tape has not so many bytes");
         }
         int fault = reader.read(n, draft);
-        fed = 0;
+        reader.tape.fed = 0;
         if (fault != 0) {
             faultPlace = reader.place();
             refused[REFUSED_TEXT]++;
@@ -99,7 +89,7 @@ public final class ValleyMass {
         draft = old;
         faultPlace = NONE;
         imageKept = false;
-        record.begin((1 << told.singers) - 1);
+        story.begin((1 << told.singers) - 1);
         return 0;
     }
 
@@ -110,7 +100,7 @@ public final class ValleyMass {
     // ---- what there is
 
     public int count(int what) throws NoSuchElementException {
-        State now = record.now;
+        State now = story.now;
         switch (what) {
             case 0: return told.singers;
             case 1: return told.pieces;
@@ -121,9 +111,9 @@ public final class ValleyMass {
             case 6: return now.caught;
             case 7: return now.fallen;
             case 8: return told.singable(now.free);
-            case 9: return record.acts;
-            case 10: return record.heard;
-            case 11: return fed;
+            case 9: return story.acts;
+            case 10: return story.heard;
+            case 11: return reader.tape.fed;
             case 12: return refused[REFUSED_TEXT];
             case 13: return refused[REFUSED_ACT];
             case 14: return refused[REFUSED_HEARD];
@@ -139,7 +129,7 @@ public final class ValleyMass {
             case 2: return told.lowest[singer];
             case 3: return told.highest[singer];
             case 4: return told.skill[singer];
-            case 5: return record.now.howIs(singer);
+            case 5: return story.now.howIs(singer);
             default: throw new NoSuchElementException("no such thing of a singer");
         }
     }
@@ -161,7 +151,7 @@ public final class ValleyMass {
 
     public int able(int piece, int part) throws NoSuchElementException {
         checkRow(piece, part);
-        return told.fitting[piece * PARTS + part] & record.now.free;
+        return told.fitting[piece * PARTS + part] & story.now.free;
     }
 
     public int standIns(int singer) throws NoSuchElementException {
@@ -175,12 +165,12 @@ public final class ValleyMass {
             throw new NoSuchElementException("no such side");
         }
         checkPart(part);
-        return Integer.bitCount(told.ofSide(side) & told.ofPart(part) & record.now.free);
+        return Integer.bitCount(told.ofSide(side) & told.ofPart(part) & story.now.free);
     }
 
     public int rows(int singer) throws NoSuchElementException {
         checkSinger(singer);
-        int bit = 1 << singer & record.now.free;
+        int bit = 1 << singer & story.now.free;
         int many = 0;
         for (int row = 0; row < ROWS_MOST; row++) {
             if ((told.fitting[row] & bit) != 0) {
@@ -193,64 +183,64 @@ public final class ValleyMass {
     // ---- acts
 
     public int days(int many) {
-        if (many < 1 || many > DAYS_AT_ONCE || record.now.day + many > DAY_LAST) {
+        if (many < 1 || many > DAYS_AT_ONCE || story.now.day + many > DAY_LAST) {
             refused[REFUSED_ACT]++;
             return NONE;
         }
-        record.keepAct();
+        story.keepAct();
         for (int i = 0; i < many; i++) {
-            War.passDay(told, record.now);
+            War.passDay(told, story.now);
         }
-        return record.now.day;
+        return story.now.day;
     }
 
     public boolean fall(int singer) throws NoSuchElementException {
         checkSinger(singer);
         int bit = 1 << singer;
-        if (!mayAct((record.now.free & bit) != 0)) {
+        if (!mayAct((story.now.free & bit) != 0)) {
             return false;
         }
-        record.now.fell(bit);
+        story.now.fell(bit);
         return true;
     }
 
     public boolean catches(int singer) throws NoSuchElementException {
         checkSinger(singer);
         int bit = 1 << singer;
-        if (!mayAct((record.now.free & bit) != 0)) {
+        if (!mayAct((story.now.free & bit) != 0)) {
             return false;
         }
-        record.now.seize(bit);
+        story.now.seize(bit);
         return true;
     }
 
     public boolean release(int singer) throws NoSuchElementException {
         checkSinger(singer);
         int bit = 1 << singer;
-        if (!mayAct((record.now.caught & bit) != 0)) {
+        if (!mayAct((story.now.caught & bit) != 0)) {
             return false;
         }
-        record.now.letGo(bit);
+        story.now.letGo(bit);
         return true;
     }
 
     public boolean exchange(int north, int south) throws NoSuchElementException {
         checkSinger(north);
         checkSinger(south);
-        int caught = record.now.caught;
+        int caught = story.now.caught;
         boolean fit = (told.ofSide(0) & caught & 1 << north) != 0
             && (told.ofSide(1) & caught & 1 << south) != 0;
         if (!mayAct(fit)) {
             return false;
         }
-        record.now.letGo(1 << north | 1 << south);
+        story.now.letGo(1 << north | 1 << south);
         return true;
     }
 
     /** An ACT that is fit is kept, ahead of what it does; one that isn't is counted as refused. */
     private boolean mayAct(boolean fit) {
         if (fit) {
-            record.keepAct();
+            story.keepAct();
         } else {
             refused[REFUSED_ACT]++;
         }
@@ -258,21 +248,21 @@ public final class ValleyMass {
     }
 
     public int undo() {
-        if (record.acts <= 0) {
+        if (story.acts <= 0) {
             return NONE;
         }
-        record.takeBack();
-        return record.acts;
+        story.takeBack();
+        return story.acts;
     }
 
     public void image() {
-        kept.copyFrom(record);
+        kept.copyFrom(story);
         imageKept = true;
     }
 
     public boolean restore() {
         if (imageKept) {
-            record.copyFrom(kept);
+            story.copyFrom(kept);
         }
         return imageKept;
     }
@@ -281,31 +271,31 @@ public final class ValleyMass {
 
     public int moved(int piece) throws NoSuchElementException {
         checkPiece(piece);
-        return Choir.fewestMoves(told, record.now.free, piece);
+        return Choir.fewestMoves(told, story.now.free, piece);
     }
 
     public int spare(int piece) throws NoSuchElementException {
         checkPiece(piece);
-        return Choir.sparable(told, record.now.free, piece);
+        return Choir.sparable(told, story.now.free, piece);
     }
 
     public int keys() {
-        return Choir.keySingers(told, record.now.free);
+        return Choir.keySingers(told, story.now.free);
     }
 
     public int ransom(int piece) throws NoSuchElementException {
         checkPiece(piece);
-        return Choir.ransomed(told, record.now, piece);
+        return Choir.ransomed(told, story.now, piece);
     }
 
     public int bargain() {
-        return Choir.bestExchange(told, record.now);
+        return Choir.bestExchange(told, story.now);
     }
 
     public int duet() {
         for (int first = 0; first < PIECES_MOST; first++) {
             for (int second = first + 1; second < PIECES_MOST; second++) {
-                if (Choir.together(told, record.now.free, 1 << first | 1 << second)) {
+                if (Choir.together(told, story.now.free, 1 << first | 1 << second)) {
                     return 10 * first + second;
                 }
             }
@@ -317,7 +307,7 @@ public final class ValleyMass {
         int best = 0;
         for (int set = 1; set < PIECE_SETS; set++) {
             boolean more = Integer.bitCount(set) > Integer.bitCount(best);
-            if (more && Choir.together(told, record.now.free, set)) {
+            if (more && Choir.together(told, story.now.free, set)) {
                 best = set;
             }
         }
@@ -329,25 +319,25 @@ public final class ValleyMass {
         if (what < 0 || what > 1) {
             throw new NoSuchElementException("no such thing of a cast");
         }
-        if (!told.canBeSung(piece, record.now.free)) {
+        if (!told.canBeSung(piece, story.now.free)) {
             return NONE;
         }
-        int chosen = Choir.bestCast(told, record.now.free, piece);
+        int chosen = Choir.bestCast(told, story.now.free, piece);
         return what == 0 ? chosen : told.skillsOf(chosen);
     }
 
     public long casts(int piece) throws NoSuchElementException {
         checkPiece(piece);
-        return Choir.countCasts(told, record.now.free, piece);
+        return Choir.countCasts(told, story.now.free, piece);
     }
 
     public int transposed(int piece) throws NoSuchElementException {
         checkPiece(piece);
         for (int by = 0; by <= OCTAVE; by++) {
-            if (Choir.canBeSungAt(told, record.now.free, piece, -by)) {
+            if (Choir.canBeSungAt(told, story.now.free, piece, -by)) {
                 return -by;
             }
-            if (Choir.canBeSungAt(told, record.now.free, piece, by)) {
+            if (Choir.canBeSungAt(told, story.now.free, piece, by)) {
                 return by;
             }
         }
@@ -360,7 +350,7 @@ public final class ValleyMass {
         if (told.need[row] == 0) {
             throw new NoSuchElementException("no such row");
         }
-        return told.lackingIn(row, record.now.free);
+        return told.lackingIn(row, story.now.free);
     }
 
     public int widen(int piece, int what) throws NoSuchElementException {
@@ -368,14 +358,14 @@ public final class ValleyMass {
         if (what < 0 || what > 1) {
             throw new NoSuchElementException("no such thing of widening");
         }
-        if (told.canBeSung(piece, record.now.free)) {
+        if (told.canBeSung(piece, story.now.free)) {
             return what == 0 ? 0 : NONE;
         }
-        int row = Choir.rowLackingOne(told, record.now.free, piece);
+        int row = Choir.rowLackingOne(told, story.now.free, piece);
         if (row == NONE) {
             return NONE;
         }
-        int who = Choir.easiestToWiden(told, record.now.free, row);
+        int who = Choir.easiestToWiden(told, story.now.free, row);
         return what == 0 && who != NONE ? told.stretch(row, who) : who;
     }
 
@@ -390,7 +380,7 @@ public final class ValleyMass {
         if (fall < 0 || fall > SINGERS_MOST) {
             throw new IllegalArgumentException("not so many can fall");
         }
-        int free = record.now.free;
+        int free = story.now.free;
         long good = Choir.setsOutlived(told, free, piece, fall, ways);
         if (good == 0) {
             return what;
@@ -433,12 +423,12 @@ public final class ValleyMass {
         checkRow(piece, part);
         int row = piece * PARTS + part;
         boolean noNote = i < 0 || i >= told.length[row];
-        if (record.heard >= HEARD_MOST || noNote || note < 0 || note > HEARD_TOP) {
+        if (story.heard >= HEARD_MOST || noNote || note < 0 || note > HEARD_TOP) {
             refused[REFUSED_HEARD]++;
             return NONE;
         }
-        record.addHeard(row, told.notes[row * NOTES_MOST + i], note);
-        return record.heard;
+        story.addHeard(row, told.notes[row * NOTES_MOST + i], note);
+        return story.heard;
     }
 
     public int flat(int what) throws NoSuchElementException {
@@ -463,14 +453,14 @@ public final class ValleyMass {
     }
 
     private boolean allHeardIsSo(int bit, int by) {
-        for (int i = 0; i < record.heard && i < HEARD_MOST; i++) {
-            int row = record.heardRow[i];
+        for (int i = 0; i < story.heard && i < HEARD_MOST; i++) {
+            int row = story.heardRow[i];
             if (row < 0 || row >= ROWS_MOST) {
                 return false;
             }
-            boolean sings = (told.fitting[row] & record.now.free & bit) != 0;
-            int due = sings ? record.heardTold[i] - by : record.heardTold[i];
-            if (record.heardNote[i] != due) {
+            boolean sings = (told.fitting[row] & story.now.free & bit) != 0;
+            int due = sings ? story.heardTold[i] - by : story.heardTold[i];
+            if (story.heardNote[i] != due) {
                 return false;
             }
         }
@@ -478,23 +468,23 @@ public final class ValleyMass {
     }
 
     public void forget() {
-        record.heard = 0;
+        story.heard = 0;
     }
 
     // ---- the days to come
 
     public boolean holds(int side) throws NoSuchElementException {
         checkWarring(side);
-        return War.holdsFire(told, record.now, side);
+        return War.holdsFire(told, story.now, side);
     }
 
     public int aimed(int side) throws NoSuchElementException {
         checkWarring(side);
-        return War.target(told, record.now, side);
+        return War.target(told, story.now, side);
     }
 
     public int peace() {
-        trial.copyFrom(record.now);
+        trial.copyFrom(story.now);
         for (int i = 0; i < DAYS_AHEAD; i++) {
             if (War.passDay(told, trial) != 0) {
                 return i;
@@ -504,7 +494,7 @@ public final class ValleyMass {
     }
 
     public int silent() {
-        trial.copyFrom(record.now);
+        trial.copyFrom(story.now);
         for (int i = 0; i < DAYS_AHEAD; i++) {
             if (told.isEvening(trial.day) && told.singable(trial.free) == 0) {
                 return trial.day;
@@ -516,7 +506,7 @@ public final class ValleyMass {
 
     public int falls(int days) throws IllegalArgumentException {
         checkDays(days);
-        trial.copyFrom(record.now);
+        trial.copyFrom(story.now);
         int many = 0;
         for (int i = 0; i < days; i++) {
             many += Integer.bitCount(War.passDay(told, trial));
@@ -528,7 +518,7 @@ public final class ValleyMass {
             throws NoSuchElementException, IllegalArgumentException {
         checkWarring(side);
         checkDays(days);
-        trial.copyFrom(record.now);
+        trial.copyFrom(story.now);
         int many = 0;
         for (int i = 0; i < days; i++) {
             if (War.holdsFire(told, trial, side)) {
@@ -541,7 +531,7 @@ public final class ValleyMass {
 
     public int lost(int piece) throws NoSuchElementException {
         checkPiece(piece);
-        trial.copyFrom(record.now);
+        trial.copyFrom(story.now);
         for (int i = 0; i < DAYS_AHEAD; i++) {
             if (!told.canBeSung(piece, trial.free)) {
                 return trial.day;
@@ -555,7 +545,7 @@ public final class ValleyMass {
         if (side < 0 || side >= SIDES) {
             throw new NoSuchElementException("no such side");
         }
-        trial.copyFrom(record.now);
+        trial.copyFrom(story.now);
         for (int i = 0; i < DAYS_AHEAD; i++) {
             if ((told.ofSide(side) & trial.free) == 0) {
                 return trial.day;
@@ -575,7 +565,7 @@ public final class ValleyMass {
         }
         int many = 0;
         for (int couple = 0; couple < 4; couple++) {
-            if (War.coupleRests(told, record.now, couple >> 1, couple & 1, much)) {
+            if (War.coupleRests(told, story.now, couple >> 1, couple & 1, much)) {
                 if (what == 1) {
                     return 10 * (couple >> 1) + (couple & 1);
                 }
@@ -593,7 +583,7 @@ public final class ValleyMass {
         if (n < 0 || n > WAR_DAYS) {
             throw new IllegalArgumentException("not so many days");
         }
-        trial.copyFrom(record.now);
+        trial.copyFrom(story.now);
         int draw = seed;
         for (int i = 0; i < n; i++) {
             if (told.singers > 0) {
@@ -604,7 +594,7 @@ public final class ValleyMass {
         }
         switch (what) {
             case 0: return Integer.bitCount(trial.fallen);
-            case 1: return trial.sung - record.now.sung;
+            case 1: return trial.sung - story.now.sung;
             default: return Integer.bitCount(told.singable(trial.free));
         }
     }
@@ -1113,14 +1103,13 @@ public final class ValleyMass {
             return rules.result(rule);
         }
 
-        /** Whom a side fells when it fires, as a bit. */
-        private static int victim(Valley valley, State state, int side) {
-            int who = target(valley, state, side);
+        private static int bitOf(int who) {
             return who == NONE ? 0 : 1 << who;
         }
 
+        /** Whom a side fells on a DAY, as a bit. */
         private static int shot(Valley valley, State state, int side) {
-            return holdsFire(valley, state, side) ? 0 : victim(valley, state, side);
+            return holdsFire(valley, state, side) ? 0 : bitOf(target(valley, state, side));
         }
 
         /** A DAY goes by: who falls on it, as bits. */
@@ -1149,9 +1138,9 @@ public final class ValleyMass {
         }
 
         private static int leftFree(Valley valley, State state, int north, int south) {
-            int felled = north == 0 ? victim(valley, state, 0) : 0;
+            int felled = north == 0 ? bitOf(target(valley, state, 0)) : 0;
             if (south == 0) {
-                felled |= victim(valley, state, 1);
+                felled |= bitOf(target(valley, state, 1));
             }
             return state.free & ~felled;
         }
@@ -1450,8 +1439,8 @@ public final class ValleyMass {
         }
     }
 
-    /** The tokens of a TEXT. */
-    private static final class Tokens {
+    /** The bytes that were fed, and the tokens of a TEXT among them. */
+    private static final class Tape {
         /** Each word's number is its place here: the words of one kind stand side by side. */
         private static final String WORDS = "north south neutral soprano alto tenor bass piece every truce aim or and not day sung own other fallen can skill part singer tone ";
         static final int NORTH = 0;
@@ -1479,14 +1468,21 @@ public final class ValleyMass {
 
         private static final int DIGITS_MOST = 4;
 
-        private final int[] text;
+        private final int[] text = new int[TAPE_MOST];
+        int fed;
         private final int[] kinds = new int[TAPE_MOST];
         private final int[] places = new int[TAPE_MOST];
         private int many;
         private int end;
 
-        Tokens(int[] tape) {
-            text = tape;
+        /** Four bytes, the highest first. */
+        void put(int number) {
+            for (int shift = 24; shift >= 0; shift -= 8) {
+                if (fed >= 0 && fed < TAPE_MOST) {
+                    text[fed] = number >>> shift & 255;
+                    fed++;
+                }
+            }
         }
 
         int kindOf(int i) {
@@ -1498,9 +1494,10 @@ public final class ValleyMass {
             return i >= 0 && i < many && i < TAPE_MOST ? places[i] : end;
         }
 
-        void take(int length) {
+        /** Finds the tokens of the first so many bytes. */
+        void scan(int length) {
             many = 0;
-            end = Math.min(length, text.length);
+            end = Math.min(length, TAPE_MOST);
             int at = 0;
             while (at < end) {
                 int sign = byteAt(at);
@@ -1523,7 +1520,7 @@ public final class ValleyMass {
         }
 
         private int byteAt(int i) {
-            return i >= 0 && i < end && i < text.length ? text[i] : NONE;
+            return i >= 0 && i < end && i < TAPE_MOST ? text[i] : NONE;
         }
 
         private static boolean isLetter(int sign) {
@@ -1619,7 +1616,7 @@ public final class ValleyMass {
         private static final int TRUCE_VALUES = 6;
         private static final int AIM_VALUES = 4;
 
-        private final Tokens tokens;
+        final Tape tape = new Tape();
         private int at;
         private int token;
         private int taken;
@@ -1628,19 +1625,15 @@ public final class ValleyMass {
         private int valueCount;
         private int fault;
 
-        Reader(int[] tape) {
-            tokens = new Tokens(tape);
-        }
-
         /** 0, or the FAULT, before which the reader stays. */
         int read(int length, Valley into) {
-            tokens.take(length);
+            tape.scan(length);
             at = 0;
-            token = tokens.kindOf(0);
+            token = tape.kindOf(0);
             everyTold = false;
             fault = 0;
             into.clear();
-            for (int i = 0; i < TAPE_MOST && token != Tokens.END; i++) {
+            for (int i = 0; i < TAPE_MOST && token != Tape.END; i++) {
                 if (!readLine(into)) {
                     return fault;
                 }
@@ -1650,7 +1643,7 @@ public final class ValleyMass {
         }
 
         int place() {
-            return tokens.placeOf(at);
+            return tape.placeOf(at);
         }
 
         private boolean fail(int kind) {
@@ -1660,39 +1653,39 @@ public final class ValleyMass {
 
         private void step() {
             at++;
-            token = tokens.kindOf(at);
+            token = tape.kindOf(at);
         }
 
         private boolean atSign(char sign) {
-            return token == Tokens.SIGN + sign;
+            return token == Tape.SIGN + sign;
         }
 
         private boolean atNumber() {
-            return token >= Tokens.NUMBER || token == Tokens.LONG_NUMBER;
+            return token >= Tape.NUMBER || token == Tape.LONG_NUMBER;
         }
 
         private boolean atWord() {
-            return token >= Tokens.NORTH && token <= Tokens.UNKNOWN_WORD;
+            return token >= Tape.NORTH && token <= Tape.UNKNOWN_WORD;
         }
 
         private boolean atPart() {
-            return token >= Tokens.SOPRANO && token <= Tokens.BASS;
+            return token >= Tape.SOPRANO && token <= Tape.BASS;
         }
 
         // ---- lines
 
         private boolean readLine(Valley into) {
-            if (token >= Tokens.NORTH && token <= Tokens.NEUTRALS) {
+            if (token >= Tape.NORTH && token <= Tape.NEUTRALS) {
                 return readSinger(into) && readSign(';');
             }
             if (atPart()) {
                 return readRow(into) && readSign(';');
             }
             switch (token) {
-                case Tokens.PIECE: return readPiece(into) && readSign(';');
-                case Tokens.EVERY: return readEvery(into) && readSign(';');
-                case Tokens.TRUCE: return readRule(into.rules, 0) && readSign(';');
-                case Tokens.AIM: return readRule(into.rules, Rules.AIM_FIRST) && readSign(';');
+                case Tape.PIECE: return readPiece(into) && readSign(';');
+                case Tape.EVERY: return readEvery(into) && readSign(';');
+                case Tape.TRUCE: return readRule(into.rules, 0) && readSign(';');
+                case Tape.AIM: return readRule(into.rules, Rules.AIM_FIRST) && readSign(';');
                 default: return fail(CANT_STAND);
             }
         }
@@ -1710,7 +1703,7 @@ public final class ValleyMass {
             if (!atNumber()) {
                 return fail(CANT_STAND);
             }
-            taken = token - Tokens.NUMBER;
+            taken = token - Tape.NUMBER;
             if (taken < least || taken > most) {
                 return fail(TOO_MUCH);
             }
@@ -1723,12 +1716,12 @@ public final class ValleyMass {
             if (singer < 0 || singer >= SINGERS_MOST) {
                 return fail(TOO_MUCH);
             }
-            into.side[singer] = token - Tokens.NORTH;
+            into.side[singer] = token - Tape.NORTH;
             step();
             if (!atPart()) {
                 return fail(CANT_STAND);
             }
-            into.part[singer] = token - Tokens.SOPRANO;
+            into.part[singer] = token - Tape.SOPRANO;
             step();
             if (!readNumber(0, NOTE_TOP)) {
                 return false;
@@ -1756,7 +1749,7 @@ public final class ValleyMass {
         }
 
         private boolean readRow(Valley into) {
-            int row = (into.pieces - 1) * PARTS + token - Tokens.SOPRANO;
+            int row = (into.pieces - 1) * PARTS + token - Tape.SOPRANO;
             if (into.pieces < 1 || row < 0 || row >= ROWS_MOST) {
                 return fail(CANT_STAND);
             }
@@ -1796,15 +1789,15 @@ public final class ValleyMass {
         /** First is the north's rule of this kind; the south's comes behind it. */
         private boolean readRule(Rules rules, int first) {
             step();
-            if (token < Tokens.NORTH || token > Tokens.SOUTH) {
+            if (token < Tape.NORTH || token > Tape.SOUTH) {
                 return fail(CANT_STAND);
             }
-            int rule = first + token - Tokens.NORTH;
+            int rule = first + token - Tape.NORTH;
             if (rules.has(rule)) {
                 return fail(TOLD_AGAIN);
             }
             boolean truce = first < Rules.AIM_FIRST;
-            firstValue = truce ? Tokens.DAY : Tokens.SKILL;
+            firstValue = truce ? Tape.DAY : Tape.SKILL;
             valueCount = truce ? TRUCE_VALUES : AIM_VALUES;
             step();
             rules.open(rule);
@@ -1821,7 +1814,7 @@ public final class ValleyMass {
                 return fail(starts ? TOO_MUCH : CANT_STAND);
             }
             boolean fine = readAnd(rules, depth);
-            for (int i = 0; i < TAPE_MOST && fine && token == Tokens.OR; i++) {
+            for (int i = 0; i < TAPE_MOST && fine && token == Tape.OR; i++) {
                 step();
                 fine = readAnd(rules, depth);
                 rules.add(Rules.STEP_OR);
@@ -1831,7 +1824,7 @@ public final class ValleyMass {
 
         private boolean readAnd(Rules rules, int depth) {
             boolean fine = readNot(rules, depth);
-            for (int i = 0; i < TAPE_MOST && fine && token == Tokens.AND; i++) {
+            for (int i = 0; i < TAPE_MOST && fine && token == Tape.AND; i++) {
                 step();
                 fine = readNot(rules, depth);
                 rules.add(Rules.STEP_AND);
@@ -1841,11 +1834,11 @@ public final class ValleyMass {
 
         private boolean readNot(Rules rules, int depth) {
             int nots = 0;
-            while (nots < NOTS_MOST && token == Tokens.NOT) {
+            while (nots < NOTS_MOST && token == Tape.NOT) {
                 step();
                 nots++;
             }
-            if (token == Tokens.NOT && nots == NOTS_MOST) {
+            if (token == Tape.NOT && nots == NOTS_MOST) {
                 return fail(TOO_MUCH);
             }
             boolean fine = readTest(rules, depth);

@@ -9,25 +9,46 @@ public final class ModelTest {
         for (int seed = 1; seed <= runs; seed++) {
             Random r = new Random(seed * 7919L);
             boolean many = seed % 8 == 0;
-            run(r, SlowModel.make(r, many ? 14 : 9), many ? 8 : 45, seed % 2 == 0);
+            ValleyMass x = new ValleyMass();
+            int[] refused = new int[3];
+            // One object is told one valley behind the other: nothing of the old ones may stay.
+            for (int i = 0; i < 4; i++) {
+                tellWrongly(r, x, refused);
+                run(r, x, SlowModel.make(r, many ? 14 : 9), many ? 3 : 12, refused, seed % 2 == 0);
+            }
         }
         CHECK.end();
     }
 
     /** In calm runs fewer days go by, so that more are left to be caught and exchanged. */
-    private static void run(Random r, SlowModel m, int acts, boolean calm) {
-        ValleyMass x = new ValleyMass();
+    private static void run(Random r, ValleyMass x, SlowModel m, int acts, int[] refused, boolean calm) {
         due("valley of " + m.text, 0, Check.tell(x, m.text));
         told(m, x);
-        int[] refused = new int[2];
+        state(m, x);
         for (int i = 0; i < acts; i++) {
             act(r, m, x, calm ? CALM[r.nextInt(CALM.length)] : r.nextInt(11), refused);
             due("refused acts", refused[0], x.count(13));
             due("refused to hear", refused[1], x.count(14));
+            due("refused texts", refused[2], x.count(12));
             state(m, x);
             if (i % 3 == 0) {
                 ask(r, m, x);
             }
+        }
+    }
+
+    /** A text that ends too soon leaves all as it is, whatever it told until then. */
+    private static void tellWrongly(Random r, ValleyMass x, int[] refused) {
+        String text = SlowModel.make(r, 9).text;
+        if (text.length() > 1 && r.nextBoolean()) {
+            int singers = x.count(0);
+            int free = x.count(5);
+            String cut = text.substring(0, text.length() - 1);
+            due("a text without its end", 1, Check.tell(x, cut));
+            due("where it ends", cut.length(), x.fault());
+            due("singers stay", singers, x.count(0));
+            due("free ones stay", free, x.count(5));
+            refused[2]++;
         }
     }
 
