@@ -26,6 +26,14 @@ final class Check {
         due(what, want ? 1 : 0, got ? 1 : 0);
     }
 
+    void due(String what, String want, String got) {
+        asked++;
+        if (!got.equals(want)) {
+            wrong++;
+            System.out.println(name + ": " + what + " answered " + got + ", due is " + want);
+        }
+    }
+
     void dueThrow(String what, String want, Callable<?> call) {
         asked++;
         String got = "nothing";
@@ -77,5 +85,28 @@ final class Check {
             throw new IllegalStateException("fault " + fault + " at " + x.fault() + " in " + text);
         }
         return x;
+    }
+
+    /** All that a valley tells of itself, to see that a call changed nothing. */
+    static String allOf(ValleyMass x) {
+        StringBuilder all = new StringBuilder("fault " + x.fault() + " texts " + x.count(12));
+        for (int what = 0; what <= 14; what++) {
+            all.append(what == 12 ? "" : " " + x.count(what));
+        }
+        for (int singer = 0; singer < x.count(0); singer++) {
+            for (int what = 0; what < 6; what++) {
+                all.append(what == 0 ? "; " : " ").append(x.singer(singer, what));
+            }
+        }
+        for (int row = 0; row < x.count(1) * 4; row++) {
+            int notes = x.row(row / 4, row % 4, -2);
+            for (int i = -2; i < notes; i++) {
+                all.append(i == -2 ? "; " : " ").append(x.row(row / 4, row % 4, i));
+            }
+        }
+        for (int i = 0; i < 2; i++) {
+            all.append(x.holds(i) ? "; holds " : "; fires ").append(x.aimed(i));
+        }
+        return all.append("; ").append(x.flat(0)).append(' ').append(x.flat(1)).toString();
     }
 }
