@@ -50,7 +50,7 @@ public final class EdgesOfCallsTest {
 
     /** All numbers from the first to the last are taken, the ones beside them are not. */
     private static void between(String what, String want, ValleyMass x, Call call, int first, int last) {
-        for (int n : new int[] {first - 1, last + 1, LEAST, MOST, first - 32, last + 32, 1 << 30}) {
+        for (int n : new int[] {first - 1, first - 2, last + 1, last + 2, first - 32, last + 32, LEAST, MOST}) {
             dueThrow(what, want, x, call, n);
         }
         for (int n = first; n <= last && n < first + 100; n++) {
